@@ -67,7 +67,7 @@ public final class EdgeChain {
             return FAULT_BASE - reader.faultPlace;
         }
         partCount = reader.told;
-        for (int i = 0; i < partCount && i < MAX_PARTS; i++) {
+        for (int i = 0; i < partCount; i++) {
             partList[i].become(reader.list[i]);
         }
         return partCount;
@@ -100,7 +100,7 @@ public final class EdgeChain {
         if (chain.state != RESET) {
             return STATE;
         }
-        return chain.size < MAX_CHIPS ? chain.append(part, partList[part]) : FULL;
+        return chain.append(part, partList[part]);
     }
 
     public int chipOf(int c, int what) {
@@ -216,7 +216,7 @@ public final class EdgeChain {
     // ---- nets
 
     public int net() {
-        return nets.size < MAX_NETS ? nets.append() : FULL;
+        return nets.append();
     }
 
     public int join(int net, int chip, int cell) {
@@ -392,7 +392,7 @@ public final class EdgeChain {
         if (wrong != 0) {
             return FAULT_BASE - wrong;
         }
-        sheet.put(i, v);
+        sheet.cells[i] = v;
         return 1;
     }
 
@@ -568,51 +568,22 @@ public final class EdgeChain {
 
         boolean readItem(Part part) {
             if (isName("id")) {
-                return part.identity == NONE ? readIdentity(part) : refuse(REPEATED);
+                return isNew(part.identity == NONE) && takeNumber(0, Integer.MAX_VALUE) && putIdentity(part);
             }
             if (isName("sample")) {
-                return part.sample == NONE ? readSample(part) : refuse(REPEATED);
+                return isNew(part.sample == NONE) && takeNumber(0, greatestCode(part)) && putSample(part);
             }
             if (isName("extest")) {
-                return part.extest == NONE ? readExtest(part) : refuse(REPEATED);
+                return isNew(part.extest == NONE) && takeNumber(0, greatestCode(part)) && putExtest(part);
             }
             if (isName("cells")) {
-                return part.cells == 0 ? readCells(part) : refuse(REPEATED);
+                return isNew(part.cells == 0) && takeName() && putCells(part);
             }
             return refuse(MISPLACED);
         }
 
-        boolean readIdentity(Part part) {
-            if (!takeNumber(0, Integer.MAX_VALUE)) {
-                return false;
-            }
-            if ((value & 1) == 0) {
-                return refuse(NOT_ALLOWED);
-            }
-            part.identity = value;
-            return true;
-        }
-
-        boolean readSample(Part part) {
-            if (!takeNumber(0, greatestCode(part))) {
-                return false;
-            }
-            if (value == part.extest) {
-                return refuse(REPEATED);
-            }
-            part.sample = value;
-            return true;
-        }
-
-        boolean readExtest(Part part) {
-            if (!takeNumber(0, greatestCode(part))) {
-                return false;
-            }
-            if (value == part.sample) {
-                return refuse(REPEATED);
-            }
-            part.extest = value;
-            return true;
+        boolean isNew(boolean untold) {
+            return untold || refuse(REPEATED);
         }
 
         /** All ones is left out, for that code is bypass in every part. */
@@ -620,29 +591,39 @@ public final class EdgeChain {
             return (1 << part.length) - 2;
         }
 
-        boolean readCells(Part part) {
-            if (!take()) {
-                return false;
-            }
-            if (kind != NAME) {
-                return refuse(MISPLACED);
-            }
-            if (behind - first > MAX_CELLS) {
+        boolean putIdentity(Part part) {
+            part.identity = value;
+            return (value & 1) == 1 || refuse(NOT_ALLOWED);
+        }
+
+        boolean putSample(Part part) {
+            part.sample = value;
+            return value != part.extest || refuse(REPEATED);
+        }
+
+        boolean putExtest(Part part) {
+            part.extest = value;
+            return value != part.sample || refuse(REPEATED);
+        }
+
+        boolean putCells(Part part) {
+            part.cells = behind - first;
+            if (part.cells > MAX_CELLS) {
                 return refuse(NOT_ALLOWED);
             }
-            int outs = 0;
-            for (int i = first; i < behind; i++) {
-                byte letter = tape.bytes[i];
-                if (letter != 'i' && letter != 'o') {
+            for (int i = 0; i < part.cells; i++) {
+                byte letter = tape.bytes[first + i];
+                if (letter == 'o') {
+                    part.outs |= 1 << i;
+                } else if (letter != 'i') {
                     return refuse(NOT_ALLOWED);
                 }
-                if (letter == 'o') {
-                    outs |= 1 << (i - first);
-                }
             }
-            part.cells = behind - first;
-            part.outs = outs;
             return true;
+        }
+
+        boolean takeName() {
+            return take() && (kind == NAME || refuse(MISPLACED));
         }
 
         boolean takeNumber(int least, int most) {
@@ -735,7 +716,7 @@ public final class EdgeChain {
                 case RESET: order = part.firstOrder(); break;
                 case CAPTURE_ORDERS: orderRegister = 1; break;
                 case UPDATE_ORDERS: order = part.orderOf(orderRegister); break;
-                case CAPTURE_DATA: registers[registerPlace()] = caught(levels); break;
+                case CAPTURE_DATA: registers[registerPlace()] = hasCells() ? feet(levels) : constant(); break;
                 case UPDATE_DATA: latches = hasCells() ? registers[SAMPLE] & part.outs : latches; break;
                 default: break;
             }
@@ -747,7 +728,7 @@ public final class EdgeChain {
 
         /** Sample and extest share the register of the cells. */
         int registerPlace() {
-            return hasCells() ? SAMPLE : order;
+            return order < SAMPLE ? order : SAMPLE;
         }
 
         int registerLength() {
@@ -757,11 +738,9 @@ public final class EdgeChain {
             return order == IDENTITY ? 32 : part.cells;
         }
 
-        int caught(int levels) {
-            if (order == BYPASS) {
-                return 0;
-            }
-            return order == IDENTITY ? part.identity : feet(levels);
+        /** What an order without cells captures. */
+        int constant() {
+            return order == IDENTITY ? part.identity : 0;
         }
 
         int shiftData(int in) {
@@ -929,13 +908,12 @@ public final class EdgeChain {
             return far;
         }
 
+        /** The caller has looked at n and at every cell. */
         int shiftRow(boolean orders, int[] cells, int from, int n) {
             int before = elapsed;
             walk(orders ? SHIFT_ORDERS : SHIFT_DATA);
-            for (int i = 0; i < n && i < MAX_SCAN; i++) {
-                int at = from + i;
-                boolean d = at >= 0 && at < cells.length && bit(cells[at], 0) == 1;
-                logBits[i] = step(i == n - 1, d);
+            for (int i = 0; i < n; i++) {
+                logBits[i] = step(i == n - 1, bit(cells[from + i], 0) == 1);
             }
             logged = n;
             walk(IDLE);
@@ -1316,7 +1294,7 @@ public final class EdgeChain {
 
         int column(int[] rows, int net) {
             int bits = 0;
-            for (int r = 0; r < rowsNow && r < rows.length; r++) {
+            for (int r = 0; r < rowsNow; r++) {
                 bits |= bit(rows[r], net) << r;
             }
             return bits;
@@ -1444,10 +1422,9 @@ public final class EdgeChain {
 
     /** A row of cells; lane NONE is nothing. */
     private static final class Sheet {
-        static final int BYTES = 0, SHORTS = 1;
-
         int lane = NONE;
         int size;
+        /** Whatever the lane: no more than the lowest bit of a cell is ever read. */
         final int[] cells = new int[MAX_SHEET_CELLS];
 
         void renew(int kind, int n) {
@@ -1465,19 +1442,6 @@ public final class EdgeChain {
                 return CAST_FAULT;
             }
             return from < 0 || from > size - n ? INDEX_FAULT : 0;
-        }
-
-        void put(int i, int v) {
-            if (i < 0 || i >= size || i >= MAX_SHEET_CELLS) {
-                return;
-            }
-            if (lane == BYTES) {
-                cells[i] = (byte) v;
-            } else if (lane == SHORTS) {
-                cells[i] = (short) v;
-            } else {
-                cells[i] = v;
-            }
         }
     }
 }

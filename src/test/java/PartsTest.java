@@ -50,6 +50,7 @@ public final class PartsTest {
         text("part 3 id 1;", 1, 0);
         text("part 3 id 999999999;", 1, 0);
         text("part 2 extest 0 cells i;", 1, 0);
+        text("part 2 extest 1 sample 0 cells o;", 1, 0);
         text("part 2 extest 2 sample 1 cells ioioioioio id 5;", 1, 0);
         text("part8extest254cells o;", 1, 0);
         text("part8extest254cellso;", -24, 2);
@@ -66,11 +67,20 @@ public final class PartsTest {
         text("part 4" + (char) 255 + ";", -16, 1);
         text("part 4" + (char) 0, -16, 1);
         text("1234567890", -10, 1);
+        text("!part 4;", -10, 1);
+        text("part 4 {;", -17, 1);
+        text("part 4 `;", -17, 1);
+        text("part 4 /;", -17, 1);
+        text("part 4:", -16, 1);
+        text("part 4<", -16, 1);
         // 2: a token that can not stand there, the end
         text("4", -10, 2);
         text(";", -10, 2);
         text("parts 4;", -10, 2);
         text("par", -10, 2);
+        text("qart 4;", -10, 2);
+        text("parf 4;", -10, 2);
+        text("part 4 dells i;", -17, 2);
         text("id 4;", -10, 2);
         text("part ;", -15, 2);
         text("part id;", -15, 2);
@@ -147,6 +157,16 @@ public final class PartsTest {
         CHECK.due("the tape stays", x.count(9), 7);
         CHECK.due("the fault stays", x.fault(), 2);
         CHECK.due("the parts stay", x.part(0, 0), 8);
+        EdgeChain again = new EdgeChain();
+        Check.tell(again, "part 3 id 9 sample 1 extest 2 cells oo; part 4 extest 1 cells o;");
+        CHECK.due("nothing of an old text is left", Check.tell(again, "part 3 extest 0 cells ii; part 5;"), 2);
+        int[] left = {3, Check.NONE, Check.NONE, 0, 2, 0};
+        for (int what = 0; what < 6; what++) {
+            CHECK.due("part(0, " + what + ")", again.part(0, what), left[what]);
+        }
+        CHECK.due("part(0, 10)", again.part(0, 10), 0);
+        CHECK.due("part(1, 3)", again.part(1, 3), Check.NONE);
+        CHECK.due("part(1, 4)", again.part(1, 4), 0);
         EdgeChain none = new EdgeChain();
         Check.tell(none, Check.THREE);
         CHECK.due("an empty text", none.parts(), 0);

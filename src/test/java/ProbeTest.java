@@ -10,6 +10,7 @@ public final class ProbeTest {
         identities();
         eightOfBoth();
         broken();
+        levelsOfD();
         CHECK.finish();
     }
 
@@ -86,5 +87,34 @@ public final class ProbeTest {
         x.cut(1, 0);
         x.cut(3, 1);
         CHECK.due("the last of two", x.broken(), 2);
+    }
+
+    /** The first five ticks and those of broken() have D 1: it shows in latches and in order registers. */
+    private static void levelsOfD() {
+        for (int probe = 0; probe < 3; probe++) {
+            EdgeChain x = Check.board("part 2 extest 0 cells oo;", 0);
+            Check.scan(x, true, "00");
+            x.go(4);
+            x.ticks(2, 0, 0);
+            if (probe == 0) {
+                x.found();
+            } else if (probe == 1) {
+                x.identity(0);
+            } else {
+                x.broken();
+                CHECK.due("order register behind broken()", x.chipOf(0, 2), 3);
+            }
+            CHECK.due("latches behind the first five", x.chipOf(0, 4), 2);
+        }
+        EdgeChain y = Check.board("part 2;", 0);
+        y.found();
+        CHECK.due("order register behind found()", y.chipOf(0, 2), 3);
+        CHECK.due("bypass behind found()", y.chipOf(0, 3), 1);
+        y.cut(1, 1);
+        y.found();
+        CHECK.due("bypass behind the ticks with D 0", y.chipOf(0, 3), 0);
+        y.cut(1, Check.NONE);
+        y.identity(0);
+        CHECK.due("bypass behind identity()", y.chipOf(0, 3), 1);
     }
 }

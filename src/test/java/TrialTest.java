@@ -179,6 +179,19 @@ public final class TrialTest {
         EdgeChain x = Check.nets(3);
         CHECK.due("one guess", x.next(0, 0), 0);
         CHECK.due("one heap", x.next(0, 1), 1);
+        x.bridge(0, 1, 0);
+        x.bridge(1, 2, 0);
+        Model y = new Model();
+        y.nets = 3;
+        y.bridge(0, 1, 0);
+        y.bridge(1, 2, 0);
+        for (int sort : new int[] {2, 0, 1}) {
+            CHECK.due("next(" + sort + ", 1)", x.next(sort, 1), y.next(sort, 1));
+            CHECK.due("next(" + sort + ", 0)", x.next(sort, 0), y.next(sort, 0));
+        }
+        // by each of the nine guesses of sort 1 all three nets have the least level, so no row parts them
+        CHECK.due("next(1, 1)", x.next(1, 1), 9);
+        CHECK.due("next(1, 0)", x.next(1, 0), 0);
         for (int n = 1; n <= 4; n++) {
             everyBoard(n);
         }
