@@ -503,7 +503,7 @@ public final class EdgeChain {
     private static final class Reader {
         static final int END = 0, NAME = 1, NUMBER = 2, SEMICOLON = 3;
         static final int NO_TOKEN = 1, MISPLACED = 2, NOT_ALLOWED = 3, REPEATED = 4, TOO_MANY = 5, NOT_WHOLE = 6;
-        static final int MAX_FIGURES = 9;
+        static final int MAX_FIGURES = 9, GREATEST_NUMBER = 999999999;
 
         final Tape tape;
         final Part[] list = new Part[MAX_PARTS];
@@ -568,7 +568,7 @@ public final class EdgeChain {
 
         boolean readItem(Part part) {
             if (isName("id")) {
-                return isNew(part.identity == NONE) && takeNumber(0, Integer.MAX_VALUE) && putIdentity(part);
+                return isNew(part.identity == NONE) && takeNumber(0, GREATEST_NUMBER) && putIdentity(part);
             }
             if (isName("sample")) {
                 return isNew(part.sample == NONE) && takeNumber(0, greatestCode(part)) && putSample(part);
@@ -792,6 +792,8 @@ public final class EdgeChain {
 
     /** The shortest ways of all states to one of them. */
     private static final class Paths {
+        static final int NO_WAY = 1 << STATES;
+
         final int[] far = new int[STATES];
         /** The M of each tick of the way, the first one lowest. */
         final int[] turns = new int[STATES];
@@ -811,10 +813,10 @@ public final class EdgeChain {
 
         /** The least number of a way is the least one of its rest, twice, and its own turn. */
         void extend(int s, int distance) {
-            int by0 = far[AFTER_0[s]] == distance - 1 ? 2 * turns[AFTER_0[s]] : Integer.MAX_VALUE;
-            int by1 = far[AFTER_1[s]] == distance - 1 ? 2 * turns[AFTER_1[s]] + 1 : Integer.MAX_VALUE;
+            int by0 = far[AFTER_0[s]] == distance - 1 ? 2 * turns[AFTER_0[s]] : NO_WAY;
+            int by1 = far[AFTER_1[s]] == distance - 1 ? 2 * turns[AFTER_1[s]] + 1 : NO_WAY;
             int least = Math.min(by0, by1);
-            if (least < Integer.MAX_VALUE) {
+            if (least < NO_WAY) {
                 far[s] = distance;
                 turns[s] = least;
             }
@@ -1397,7 +1399,7 @@ public final class EdgeChain {
         }
 
         void seekPartingRow() {
-            partingHeap = Integer.MAX_VALUE;
+            partingHeap = guesses + 1;
             partingRow = 0;
             for (int row = 0; row < 1 << nets.size; row++) {
                 int heap = greatestHeap(row);

@@ -17,7 +17,7 @@ public final class ModelTest {
     }
 
     public static void main(String[] args) {
-        int wrongRuns = 0;
+        int wrongRuns = manyTexts();
         long asked = 0;
         for (int run = 0; run < RUNS && wrongRuns < 5; run++) {
             ModelTest t = new ModelTest(run);
@@ -33,6 +33,37 @@ public final class ModelTest {
         if (wrongRuns != 0) {
             System.exit(1);
         }
+    }
+
+    /** Short texts of random tokens: more of the faults than whole runs come to. */
+    private static int manyTexts() {
+        String[] tokens = {"part", "part ", "part 4 ", "part 2 ", "id ", "id 7 ", "id 6 ", "sample ", "sample 1 ", "sample 2 ", "sample 3 ",
+            "extest ", "extest 1 ", "extest 2 ", "extest 14 ", "cells ", "cells i ", "cells oi ", "cells ioioioioioi ", ";", "; ", ";",
+            " ", "i", "o", "1", "7 ", "15 ", "1234567890 ", "X", "\u0080", "?"};
+        Random random = new Random(1);
+        int wrongTexts = 0;
+        for (int i = 0; i < 40000 && wrongTexts < 5; i++) {
+            StringBuilder s = new StringBuilder(random.nextInt(4) == 0 ? "" : "part 4 ");
+            for (int n = random.nextInt(12); n > 0; n--) {
+                s.append(tokens[random.nextInt(tokens.length)]);
+            }
+            EdgeChain x = new EdgeChain();
+            Model y = new Model();
+            Check.feed(x, s.toString());
+            y.tape = s.toString();
+            int got = x.parts(), want = y.parts();
+            boolean same = got == want && x.fault() == y.fault;
+            for (int p = 0; p < 6; p++) {
+                for (int what = 0; what < 6; what++) {
+                    same &= x.part(p, what) == y.part(p, what);
+                }
+            }
+            if (!same) {
+                wrongTexts++;
+                System.out.println("'" + s + "': " + got + ", fault " + x.fault() + ", due is " + want + ", fault " + y.fault);
+            }
+        }
+        return wrongTexts;
     }
 
     private int below(int n) {

@@ -54,6 +54,9 @@ public final class RulesTest {
             }
             CHECK.due(m.group(3) + " is short", last - i + 1 <= 60 ? 1 : 0, 1);
             CHECK.due(m.group(3) + " takes few", m.group(4).split(",").length <= 7 ? 1 : 0, 1);
+            boolean isConstructor = Character.isUpperCase(m.group(3).charAt(0));
+            boolean makes = String.join("\n", lines.subList(i, last)).contains("new ");
+            CHECK.due(m.group(3) + " makes nothing, for all calls share one room", !isConstructor && makes ? 1 : 0, 0);
         }
         CHECK.due("methods were seen", seen > 100 ? 1 : 0, 1);
     }
