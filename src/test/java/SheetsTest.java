@@ -6,6 +6,7 @@ public final class SheetsTest {
         sheets();
         cells();
         counts();
+        fullBoard();
         CHECK.finish();
     }
 
@@ -85,5 +86,34 @@ public final class SheetsTest {
         }
         x.sheet(0, 1, 0);
         CHECK.due("a sheet of no cells", x.count(10), 0);
+    }
+
+    /** As many chips, cells and nets as there may be. */
+    private static void fullBoard() {
+        EdgeChain x = Check.board("part 8 id 3 sample 0 extest 254 cells oioioioioi;", 0, 0, 0, 0, 0, 0);
+        for (int i = 0; i < 8; i++) {
+            x.net();
+            x.stick(i, i % 2);
+            for (int b = 0; b < i; b++) {
+                x.bridge(i, b, b % 2);
+            }
+        }
+        for (int c = 0; c < 6; c++) {
+            for (int cell = 0; cell < 10; cell++) {
+                x.open(c, cell, true);
+                x.join(c, c, cell);
+            }
+        }
+        int[] due = {1, 6, 48, 60, 8, 28, 8, 60, 0, 0, Check.NONE};
+        for (int what = 0; what < due.length; what++) {
+            CHECK.due("full: count(" + what + ")", x.count(what), due[what]);
+        }
+        CHECK.due("full: cost(1)", x.cost(1), 48 + 6 + 9 * (60 + 5));
+        CHECK.due("full: found()", x.found(), 6);
+        CHECK.due("full: identity(NONE)", x.identity(Check.NONE), 6);
+        CHECK.due("full: broken()", x.broken(), Check.NONE);
+        CHECK.due("full: likely(1, 0)", x.likely(1, 0), Check.NONE);
+        CHECK.due("full: netOf(7, 0)", x.netOf(7, 0), 0);
+        CHECK.due("full: netOf(5, 2)", x.netOf(5, 2), 10);
     }
 }
