@@ -2,7 +2,11 @@ import java.lang.reflect.Constructor;
 import java.lang.reflect.Field;
 import java.lang.reflect.Method;
 import java.lang.reflect.Modifier;
+import java.nio.file.Files;
+import java.nio.file.Path;
 import java.util.TreeSet;
+import java.util.regex.Matcher;
+import java.util.regex.Pattern;
 
 /** Promise 1, the constants, and a face that is the document's and no more. */
 public final class FaceTest {
@@ -15,15 +19,31 @@ public final class FaceTest {
         "int scan(boolean,int,int,int,int)", "int sheet(int,int,int)", "int stick(int,int)", "int tick(boolean,boolean)",
         "int ticks(int,int,int)", "int word(int,int,int)", "long identity(int)"};
 
-    public static void main(String[] args) {
+    public static void main(String[] args) throws Exception {
         Check check = new Check();
         check.due("BAD", EdgeChain.BAD, -1);
         check.due("STATE", EdgeChain.STATE, -2);
         check.due("FULL", EdgeChain.FULL, -3);
         check.due("NONE", EdgeChain.NONE, -4);
         members(check);
+        document(check);
         newObject(check);
         check.finish();
+    }
+
+    /** The list above is the document's, where that can be read. */
+    private static void document(Check check) throws Exception {
+        Path path = Path.of("../shared/DOC.md");
+        if (!Files.isReadable(path)) {
+            System.out.println(path + " can not be read: the face is not looked up");
+            return;
+        }
+        TreeSet<String> told = new TreeSet<>();
+        Matcher m = Pattern.compile("(?m)^    public (int|long) (\\w+\\(.*\\));$").matcher(Files.readString(path));
+        while (m.find()) {
+            told.add(m.group(1) + " " + m.group(2).replaceAll(" \\w+(?=[,)])", "").replace(", ", ","));
+        }
+        check.due("the document's face " + told, told.equals(new TreeSet<>(java.util.List.of(METHODS))) ? 1 : 0, 1);
     }
 
     private static void members(Check check) {
